@@ -76,7 +76,27 @@ final class ModelTest {
 
   private static void alter(HeirHalves x, Model m) {
     int n = m.order.length;
-    switch (Due.draw(5)) {
+    switch (Due.draw(8)) {
+      case 5:
+        int heir = Due.draw(4);
+        Due.due("knows", x.knows(heir, !m.knows[heir]), m.knows[heir] ? 1 : 0);
+        m.knows[heir] = !m.knows[heir];
+        break;
+      case 6:
+        m.order = new int[1 + Due.draw(4)];
+        for (int h = 0; h < m.order.length; h++) {
+          m.order[h] = h;
+        }
+        Due.due("heirs", x.heirs(m.order.length), n);
+        break;
+      case 7:
+        // Divided between as it isn't any more behind undo().
+        x.image();
+        x.gossip(12);
+        x.heirs(4);
+        x.share(0, m.all());
+        Due.due("undo", x.undo(), m.year);
+        break;
       case 0:
         int i = Due.draw(n);
         int j = Due.draw(n);

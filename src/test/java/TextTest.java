@@ -41,6 +41,12 @@ final class TextTest {
     fault("part of", 7);
     fault("part of 5", 8);
     fault("part of x", 8);
+    fault("part ofz 0", 5);
+    fault("part ofa 0", 5);
+    fault("part of{ 0", 7);
+    fault("part of` 0", 7);
+    fault("part of 0/", 9);
+    fault("part of 0:", 9);
     fault("part of 0;", 10);
     fault("part of 0 ;; knows 1", 11);
     fault("part of 0 1", 10);
