@@ -928,7 +928,7 @@ public final class HeirHalves {
       int thing = members[traits[part * TRAITS + THING_OF]];
       boolean mate = (set & thing & ~(1 << part)) != 0;
       int paired = mate ? worth + worth : worth;
-      int living = Math.max(0, worth - year);
+      int living = worth > year ? worth - year : 0;
       int feigned = (knowers >> heir & 1) == 1 ? 0 : worth;
       switch (traits[part * TRAITS + KIND_OF]) {
         case PAIR: return paired;
