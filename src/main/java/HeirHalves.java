@@ -1313,13 +1313,11 @@ public final class HeirHalves {
 
     private void splitIntoTokens() {
       int many = 0;
-      int place = 0;
-      while (place < length) {
-        if (bytes[place] == ' ') {
-          place++;
-        } else {
+      int behind = 0;
+      for (int place = 0; place < length; place++) {
+        if (place >= behind && bytes[place] != ' ') {
           starts[many] = place;
-          place = splitOff(many, place);
+          behind = splitOff(many, place);
           many++;
         }
       }

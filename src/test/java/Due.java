@@ -11,8 +11,16 @@ final class Due {
   private static int asked = 0;
   private static int wrong = 0;
   private static int draws = 20261118;
+  private static String sentence = "";
+  private static int sentences = 0;
 
   private Due() {
+  }
+
+  /** What is asked from here on stands for a sentence of the document. */
+  static void sentence(String words) {
+    sentence = words;
+    sentences++;
   }
 
   static void due(String call, long got, long want) {
@@ -20,13 +28,14 @@ final class Due {
     if (got != want) {
       wrong++;
       if (wrong <= 40) {
-        System.out.println(call + " answered " + got + ", due is " + want);
+        System.out.println((sentence.isEmpty() ? "" : "[" + sentence + "] ") + call + " answered " + got + ", due is " + want);
       }
     }
   }
 
   static void end(String test) {
-    System.out.println(test + ": " + asked + " answers, " + wrong + " not as due");
+    System.out.println(test + ": " + (sentences == 0 ? "" : sentences + " sentences, ") + asked + " answers, " + wrong
+        + " not as due");
     if (wrong != 0) {
       System.exit(1);
     }
