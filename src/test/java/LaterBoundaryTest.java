@@ -329,6 +329,7 @@ final class LaterBoundaryTest {
     Due.due("of none", x.sheet(0, 32, 0), 0);
     Due.due("of none it isn't MISSING", x.write(0, 0, 1), Due.BEYOND);
     Due.due("of 40", x.sheet(0, 16, 40), 40);
+    anew(x);
 
     Due.sentence("41: bits 0: it is MISSING: n (0 if it is MISSING)");
     Due.due("sheet(0, 0, 40)", x.sheet(0, 0, 40), 0);
@@ -360,6 +361,21 @@ final class LaterBoundaryTest {
     Twin.refused("sheet(4, 8, -1)", Due.BEYOND, Twin::some, y -> y.sheet(4, 8, -1));
     Twin.refused("sheet(-1, 0, -1)", Due.BEYOND, Twin::some, y -> y.sheet(-1, 0, -1));
     Twin.refused("sheet(0, 9, -1)", Due.BEYOND, Twin::some, y -> y.sheet(0, 9, -1));
+  }
+
+  /** Each of 40 numbers is 0, whatever it was. */
+  private static void anew(HeirHalves x) {
+    for (int i = 0; i < 40; i++) {
+      x.write(0, i, 5);
+    }
+    x.sheet(0, 16, 40);
+    x.sheet(1, 16, 1);
+    for (int i = 0; i < 40; i++) {
+      x.write(1, 0, 9);
+      x.copy(0, i, 1, 0, 1);
+      x.load(1, 0);
+      Due.due("number " + i + ", made anew", x.of(0, 4), 0);
+    }
   }
 
   private static void write() {

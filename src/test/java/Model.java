@@ -10,6 +10,17 @@ final class Model {
   int year = 0;
   int[] order = {0, 1};
 
+  Model copy() {
+    Model copy = new Model();
+    for (int[] traits : parts) {
+      copy.parts.add(traits.clone());
+    }
+    System.arraycopy(knows, 0, copy.knows, 0, knows.length);
+    copy.year = year;
+    copy.order = order.clone();
+    return copy;
+  }
+
   int all() {
     return (1 << parts.size()) - 1;
   }

@@ -145,11 +145,31 @@ final class TapeBoundaryTest {
     fault(0, "Part of 0");
     fault(4, "part\u0000of 0");
     fault(0, "par\u0000t of 0");
+    Due.sentence("another WORD: its own");
+    String[] words = {"part", "pair", "living", "whole", "hourly", "feigned", "glued", "heirs", "knows"};
+    for (String word : words) {
+      likeButOther(word, "", word.equals("heirs") || word.equals("knows") ? " 0" : " of 0");
+    }
+    likeButOther("of", "part ", " 0");
+    likeButOther("worth", "part of 0 ", " 1");
+    likeButOther("edges", "part of 0 ", " 1 2");
     Due.sentence("blanks may stand between");
     told(1, "part of 0");
     told(2, "   part   of   0   ;   knows   1   ");
     told(2, "part of 0;knows 1");
     Due.due("none between a WORD and a NUMBER", told(1, "part of0worth1edges2 3").of(0, 3), 3);
+  }
+
+  /** Each letter of a WORD altered by itself, left out, or told twice: another WORD, so the FAULT is its own. */
+  private static void likeButOther(String word, String before, String behind) {
+    told(1, before + word + behind);
+    for (int i = 0; i < word.length(); i++) {
+      String begin = before + word.substring(0, i);
+      String end = word.substring(i + 1) + behind;
+      fault(before.length(), begin + 'x' + end);
+      fault(before.length(), begin + end);
+      fault(before.length(), begin + word.charAt(i) + word.charAt(i) + end);
+    }
   }
 
   private static void parts() {
